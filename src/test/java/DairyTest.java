@@ -121,6 +121,7 @@ public final class DairyTest {
         SkimmedSons sons = Check.read("c53,w53;c,h,s");
         Check.hours(sons, 3);
         sons.skim(0, 0);
+        Check.hours(sons, 4);
         sons.see(1, 2, 3);
         sons.treaty(0, 1, 0);
         sons.image();

@@ -78,12 +78,16 @@ public final class FaceTest {
     private static void nested(Check check, Class<?> face) {
         Class<?>[] inside = face.getDeclaredClasses();
         check.holds("some twelve classes at most", inside.length + 1 <= 12);
+        check.holds("some twenty fields at most", fields(face) <= 20);
         for (Class<?> one : inside) {
             int modifiers = one.getModifiers();
             check.holds(one + " is static, and not public or protected", Modifier.isStatic(modifiers)
                 && !Modifier.isPublic(modifiers) && !Modifier.isProtected(modifiers));
-            check.holds(one + " has some twenty fields at most",
-                Arrays.stream(one.getDeclaredFields()).filter(f -> !Modifier.isStatic(f.getModifiers())).count() <= 20);
+            check.holds(one + " has some twenty fields at most", fields(one) <= 20);
         }
+    }
+
+    private static long fields(Class<?> one) {
+        return Arrays.stream(one.getDeclaredFields()).filter(f -> !Modifier.isStatic(f.getModifiers())).count();
     }
 }

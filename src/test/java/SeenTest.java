@@ -92,20 +92,22 @@ public final class SeenTest {
     }
 
     private static void nights() {
-        SkimmedSons sons = Check.read("c73,f52,w94;h,s,j,y");
-        Check.hours(sons, 2);
-        long before = sons.digest();
-        for (int seed : new int[] {0, 1, 7, 99, 12345, 65535, 65536, 2147483646, 2147483647}) {
-            for (int times : new int[] {1, 2, 3, 10, 30, 60}) {
-                nightsAre(sons, times, seed);
+        for (String dairy : new String[] {"c73,f52,w94;h,s,j,y", "c99;s,y"}) {
+            SkimmedSons sons = Check.read(dairy);
+            Check.hours(sons, 2);
+            long before = sons.digest();
+            for (int seed : new int[] {0, 1, 7, 99, 12345, 65535, 65536, 2147483646, 2147483647}) {
+                for (int times : new int[] {1, 2, 3, 10, 30, 60}) {
+                    nightsAre(sons, dairy, times, seed);
+                }
             }
+            CHECK.due("as they would be", sons.digest(), before);
         }
-        CHECK.due("as they would be", sons.digest(), before);
     }
 
     /** By doing on another object what the draws say. */
-    private static void nightsAre(SkimmedSons sons, int times, int seed) {
-        SkimmedSons done = Check.read("c73,f52,w94;h,s,j,y");
+    private static void nightsAre(SkimmedSons sons, String dairy, int times, int seed) {
+        SkimmedSons done = Check.read(dairy);
         Check.hours(done, 2);
         long now = seed;
         for (int time = 0; time < times; time++) {
@@ -114,9 +116,9 @@ public final class SeenTest {
                 done.hour();
             } else {
                 now = (1103515245L * now + 12345L) % 2147483648L;
-                int child = (int) (now / 65536 % 4);
+                int child = (int) (now / 65536 % done.count(1));
                 now = (1103515245L * now + 12345L) % 2147483648L;
-                done.skim(child, (int) (now / 65536 % 3));
+                done.skim(child, (int) (now / 65536 % done.count(0)));
             }
         }
         String call = "nights(" + times + ", " + seed + ", ";

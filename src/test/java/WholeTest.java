@@ -17,13 +17,16 @@ public final class WholeTest {
         sons.skim(0, 0);
         sons.skim(1, 1);
         sons.hour();
-        sons.see(1, 3, 9);
+        sons.see(1, 2, 14);
         CHECK.due("image()", sons.image(), 5);
         long kept = sons.digest();
+        int fats = sons.pan(1, 7);
+        CHECK.due("fats at the image", fats, 0xffff & ~0x3f);
         change(sons);
         CHECK.holds("it is changed", sons.digest() != kept);
         CHECK.due("restore()", sons.restore(), 5);
         CHECK.due("it is as it was", sons.digest(), kept);
+        CHECK.due("fats are as they were", sons.pan(1, 7), fats);
         change(sons);
         CHECK.due("restore() again", sons.restore(), 5);
         CHECK.due("it is as it was, again", sons.digest(), kept);
@@ -43,7 +46,7 @@ public final class WholeTest {
         sons.pour(0, 1, 1);
         sons.forget();
         sons.see(0, 1, 1);
-        sons.see(0, 2, 2);
+        sons.see(1, 9, 2);
     }
 
     private static void notKept(SkimmedSons sons) {
@@ -103,6 +106,12 @@ public final class WholeTest {
         long first = sons.digest();
         CHECK.due("digest() of all", first, digestOf(sons, "c7;"));
         CHECK.due("digest() changes nothing", sons.digest(), first);
+        // So that the hours of later(), odds() and plan() are told apart.
+        SkimmedSons slow = Check.read("w90,w90,w01;c,s,y,j");
+        for (int hour = 0; hour < 6; hour++) {
+            CHECK.due("digest() in hour " + hour, slow.digest(), digestOf(slow, ""));
+            slow.hour();
+        }
     }
 
     private static long digestOf(SkimmedSons sons, String page) {

@@ -53,7 +53,7 @@ public final class WouldBeTest {
         planIs(sons, 2, 2, 4, 1, 1, none, none);
         // The heir has nothing by BLUE; he must take it in the first hour all the same.
         planIs(sons, 1, 1, 0, 1, none, none, none);
-        // Blue for two hours leaves the other pan still: there is no film ahead of the fourth.
+        // She is to skim while there is anything: after one blue she cannot leave pan 0 alone for long enough.
         planIs(sons, 4, 3, 0, 1, 0, 0, none);
         planIs(sons, 4, 4, 0, 1, 0, 0, 0);
         Check.hours(sons, 1);
@@ -93,7 +93,7 @@ public final class WouldBeTest {
         treatyIs(blue, 0, 1, 1 - 2 + 1, 0);
         treatyIs(blue, 1, 0, 2 - 1 + 2, 0);
         treatyIs(blue, 2, 0, -1, 0);
-        // Cream lies on blue: who takes cream for 4 leaves blue, which the second wants.
+        // The second could have blue for 2 at once, but takes cream for 1: else the heir has it for 4.
         SkimmedSons two = Check.read("w11,w01;h,s");
         two.hour();
         treatyIs(two, 0, 1, 4 - 2 + 0, 0);
@@ -104,13 +104,21 @@ public final class WouldBeTest {
         // One of two like pans: the least.
         SkimmedSons like = Check.read("w00,w01,w01;c,c");
         treatyIs(like, 0, 1, 0, 1);
-        // Not the nearest thing: blue of pan 1 now, so that the other has to uncover film.
+        // Film on one, blue on the other.
         SkimmedSons film = Check.read("c20,w01;c,j");
         Check.hours(film, 3);
         film.skim(0, 0);
         Check.hours(film, 3);
         treatyIs(film, 0, 1, 4 - 0 + 0, 0);
         treatyIs(film, 1, 0, 16 - 1, 0);
+        // As full as pans can be: thirty blue each.
+        SkimmedSons full = Check.read("w09,w09,w09;c,s");
+        for (int pan = 0; pan < 3; pan++) {
+            full.pour(pan, 0, 9);
+            full.pour(pan, 0, 2);
+        }
+        treatyIs(full, 0, 1, 30 - 60, 0);
+        treatyIs(full, 1, 0, 60 - 30, 0);
     }
 
     private static void treatyEdges() {
@@ -151,7 +159,11 @@ public final class WouldBeTest {
         oddsAre(sons, 8, 0, 0, 1);
         oddsAre(sons, 8, 1, runsOfThree(8, 1)[0], runsOfThree(8, 1)[1]);
         oddsAre(sons, 8, 9, runsOfThree(8, 9)[0], runsOfThree(8, 9)[1]);
-        Check.hours(sons, 2);
+        sons.hour();
+        oddsAre(sons, 1, 10, 0, 1);
+        oddsAre(sons, 2, 5, 1, 4);
+        oddsAre(sons, 3, 5, 1, 4);
+        sons.hour();
         oddsAre(sons, 1, 3, 3, 10);
         oddsAre(sons, 2, 5, 1, 2);
         oddsAre(sons, 4, 5, 9, 16);
@@ -188,6 +200,9 @@ public final class WouldBeTest {
     private static void oddsEdges() {
         SkimmedSons none = Check.read("w09;c,c");
         oddsAre(none, 8, 10, 0, 1);
+        SkimmedSons asMuch = Check.read("w20;c,c");
+        asMuch.hour();
+        oddsAre(asMuch, 2, 10, 1, 1);
         CHECK.due("odds(1, 9, 0, 0)", none.odds(1, 9, 0, 0), SkimmedSons.UNKNOWN);
         CHECK.due("odds(-1, 1, 0, 0)", none.odds(-1, 1, 0, 0), SkimmedSons.UNKNOWN);
         CHECK.due("odds(0, 0, 0, 0)", none.odds(0, 0, 0, 0), SkimmedSons.OUTSIDE);
