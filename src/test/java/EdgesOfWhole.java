@@ -187,6 +187,17 @@ final class EdgesOfWhole {
         check.due("7", sons.pan(0, 7), 1 << 7);
     }
 
+    static void p21_of_which_pan_it_was_seen_comes_back(Check check) {
+        SkimmedSons sons = Check.read("w92,w92;c,j");
+        sons.see(1, 12, 7);
+        sons.image();
+        sons.forget();
+        sons.see(0, 12, 5);
+        sons.restore();
+        check.due("all fats of pan 0", sons.pan(0, 7), 65535);
+        check.due("7 of pan 1", sons.pan(1, 7), 1 << 7);
+    }
+
     static void p21_nothing_seen_comes_back_as_nothing(Check check) {
         SkimmedSons sons = Check.read("w92;c,j");
         sons.image();
@@ -353,6 +364,14 @@ final class EdgesOfWhole {
             told.add(sons.count(what));
         }
         return told.stream().mapToLong(number -> number).toArray();
+    }
+
+    static void p23_later_is_of_7_hours_odds_of_4_and_5_plan_of_2(Check check) {
+        SkimmedSons sons = Check.read("w90,w90,w01;c,s,y,j");
+        for (int hour = 0; hour < 6; hour++) {
+            check.due("digest() in hour " + hour, sons.digest(), over(numbersOf(sons, "")));
+            sons.hour();
+        }
     }
 
     static void p23_asking_changes_nothing_and_does_no_treaty(Check check) {

@@ -379,6 +379,15 @@ final class EdgesOfWouldBe {
         treatyIs(check, sons, 0, 1, 10 * 4 - 10 * 16, 0);
     }
 
+    static void p15_film_then_several_cream_then_several_blue_in_one_pan(Check check) {
+        SkimmedSons sons = Check.read("w32;c,s,j", 3);
+        // Film, cream, cream, blue, blue: by turns there is no choice.
+        treatyIs(check, sons, 0, 1, 4 - 1 + 2 - 2 + 1, 0);
+        treatyIs(check, sons, 1, 0, 4 - 2 + 1 - 1 + 2, 0);
+        treatyIs(check, sons, 0, 2, 4 - 0 + 2 - 0 + 1, 0);
+        treatyIs(check, sons, 2, 0, 16 - 2 + 0 - 1 + 0, 0);
+    }
+
     static void p15_what_they_had_already_does_not_count(Check check) {
         SkimmedSons sons = Check.read("w05;c,s");
         Check.skims(sons, 0, 0, 4);
@@ -547,6 +556,13 @@ final class EdgesOfWouldBe {
         check.due("cream", sons.pan(0, 1), 1);
         check.due("fat", sons.pan(0, 0), 0);
         oddsAre(check, sons, 1, 9, 9, 10);
+    }
+
+    static void p16_just_as_much_fat_as_cream_is_not_none(Check check) {
+        SkimmedSons sons = Check.read("w20;c,j", 1);
+        check.due("cream", sons.pan(0, 1), 1);
+        check.due("fat", sons.pan(0, 0), 1);
+        oddsAre(check, sons, 2, 5, 1, 4);
     }
 
     static void p16_it_rises_in_hours_that_are_not_still_too(Check check) {
