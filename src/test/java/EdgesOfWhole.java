@@ -367,10 +367,9 @@ final class EdgesOfWhole {
     }
 
     static void p23_later_is_of_7_hours_odds_of_4_and_5_plan_of_2(Check check) {
-        SkimmedSons sons = Check.read("w90,w90,w01;c,s,y,j");
         for (int hour = 0; hour < 6; hour++) {
+            SkimmedSons sons = Check.read("w90,w90,w01;c,s,y,j", hour);
             check.due("digest() in hour " + hour, sons.digest(), over(numbersOf(sons, "")));
-            sons.hour();
         }
     }
 
