@@ -23,6 +23,7 @@ public final class RandomRunsTest {
                 calls += one.step(calls);
             }
         }
+        CHECK.due("calls in all", CHECK.asked(), RUNS * CALLS);
         CHECK.end();
     }
 
@@ -77,7 +78,8 @@ public final class RandomRunsTest {
         if (random.nextInt(4) == 0) {
             text.setCharAt(random.nextInt(text.length()), "wcf;,09hsyj:/x".charAt(random.nextInt(14)));
         }
-        if (oracle.count(10) > 0 && random.nextInt(5) > 0) {
+        boolean blanked = oracle.count(10) > 0 && random.nextInt(5) > 0;
+        if (blanked) {
             CHECK.due(name + "blank()", sons.blank(), oracle.blank());
         }
         for (int i = 0; i < text.length(); i++) {
@@ -86,7 +88,7 @@ public final class RandomRunsTest {
             CHECK.due(name + "fault()", sons.fault(), oracle.fault());
         }
         CHECK.due(name + calls + " dairy() of " + text, sons.dairy(), oracle.dairy());
-        return 2 * text.length() + 2;
+        return 2 * text.length() + (blanked ? 2 : 1);
     }
 
     private void done(int calls, int dice) {
